@@ -23,6 +23,8 @@ public final class StreamMultiplexer {
 
     private static final int LAST_OF_TOLD = 11;
     private static final int LAST_OF_STREAM = 7;
+    /** From this property of a stream on, all tell about its first waiting frame. */
+    private static final int FIRST_OF_WAITING = 5;
     private static final int LAST_OF_FRAME = 3;
     private static final int LAST_OF_LOG = 3;
     private static final int LAST_OF_ORDER = 4;
@@ -221,10 +223,21 @@ public final class StreamMultiplexer {
         if (!isStream(s) || !isWithin(what, 0, LAST_OF_STREAM)) {
             return BAD;
         }
-        if (what == 0) {
-            return present.isOpen(s) ? 1 : 0;
+        Frames queue = present.queues[s];
+        if (what >= FIRST_OF_WAITING && queue.count == 0) {
+            return NONE;
         }
-        return what <= 4 ? lineNumber(s, what) : firstFrameNumber(s, what);
+        boolean isOpen = present.isOpen(s);
+        switch (what) {
+            case 0: return isOpen ? 1 : 0;
+            case 1: return isOpen ? present.weights[s] : 0;
+            case 2: return isOpen ? present.amounts[s] : 0;
+            case 3: return queue.count;
+            case 4: return queue.sizeOfAll();
+            case 5: return present.isCandidate(s) ? 1 : 0;
+            case 6: return present.blockersOfFirst(s);
+            default: return sentBefore(s, 0);
+        }
     }
 
     public int frame(int s, int k, int what) {
@@ -335,7 +348,7 @@ public final class StreamMultiplexer {
     }
 
     private static boolean isIn(int set, int s) {
-        return (set & setOf(s)) != 0;
+        return (set & (1 << s)) != 0;
     }
 
     private boolean isEpoch(int epoch) {
@@ -363,29 +376,6 @@ public final class StreamMultiplexer {
         }
         history[HISTORY_LENGTH - 1] = oldest;
         historyCount = HISTORY_LENGTH - 1;
-    }
-
-    private int lineNumber(int s, int what) {
-        if (!present.isOpen(s)) {
-            return 0;
-        }
-        switch (what) {
-            case 1: return present.weights[s];
-            case 2: return present.amounts[s];
-            case 3: return present.queues[s].count;
-            default: return present.queues[s].sizeOfAll();
-        }
-    }
-
-    private int firstFrameNumber(int s, int what) {
-        if (present.queues[s].count == 0) {
-            return NONE;
-        }
-        switch (what) {
-            case 5: return present.isCandidate(s) ? 1 : 0;
-            case 6: return present.blockersOfFirst(s);
-            default: return sentBefore(s, 0);
-        }
     }
 
     /** Counts the frames that will be sent before the frame k of a queue, by sending them in a copy. */

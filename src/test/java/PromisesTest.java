@@ -48,6 +48,7 @@ public final class PromisesTest {
         keep();
         back();
         backIsAChange();
+        callsAfterTheLast();
         Check.finish();
     }
 
@@ -354,6 +355,12 @@ public final class PromisesTest {
         due("9 second", 3, x.witness(0, 7, 2));
         addEdges(x, "70");
         due("9 straight", 1, x.witness(0, 7, -1));
+
+        StreamMultiplexer y = new StreamMultiplexer();
+        addEdges(y, "70", "02");
+        due("9 from 0", 1, y.witness(2, 0, -1));
+        due("9 over 0", 2, y.witness(2, 7, -1));
+        due("9 over 0", 0, y.witness(2, 7, 1));
     }
 
     private static void send() {
@@ -749,6 +756,17 @@ public final class PromisesTest {
         x.undo();
         due("16 the dropped ones again", 0, x.log(0, 0));
         due("16 the latest again", 39, x.log(39, 0));
+
+        StreamMultiplexer y = opened(3, 5);
+        for (int i = 0; i < 41; i++) {
+            y.push(i % 2 == 0 ? 3 : 5, 1);
+            y.send();
+        }
+        due("16 stream moved up", 5, y.log(0, 1));
+        due("16 stream of the latest", 3, y.log(39, 1));
+        y.undo();
+        due("16 stream restored", 3, y.log(0, 1));
+        due("16 stream restored", 5, y.log(39, 1));
     }
 
     private static void relation() {
@@ -762,6 +780,8 @@ public final class PromisesTest {
         due("17 edge and walk turned", 3, x.relation(-1, 2, 0));
         due("17 walk turned", 4, x.relation(-1, 3, 0));
         due("17 none", 0, x.relation(-1, 3, 6));
+        addEdges(x, "40");
+        due("17 walk over 0", 2, x.relation(-1, 4, 1));
         due("17 of epoch 1", 0, x.relation(1, 0, 3));
         due("17 of epoch 1", 1, x.relation(1, 0, 2));
         due("17 of epoch 0", 0, x.relation(0, 0, 2));
@@ -829,6 +849,12 @@ public final class PromisesTest {
         addEdges(y, "01", "24", "34");
         due("18 widest", 3, y.order(-1, 2));
         due("18 longest", 2, y.order(-1, 1));
+        // Of 2 0, 0 1 and 2 1 the last one is not needed, and then 3 0 for 3 2 0.
+        StreamMultiplexer z = new StreamMultiplexer();
+        addEdges(z, "20", "01", "21");
+        due("18 needless over 0", 1, z.order(-1, 4));
+        addEdges(z, "32", "30");
+        due("18 needless to 0", 2, z.order(-1, 4));
     }
 
     private static void lists() {
@@ -919,5 +945,24 @@ public final class PromisesTest {
         due("21 three open", 3, x.told(0));
         due("21 undo", 2, x.undo());
         due("21 two open", 2, x.told(0));
+    }
+
+    /** What they answer is free, but no call may throw or fail to end. */
+    private static void callsAfterTheLast() {
+        StreamMultiplexer x = allOpened();
+        for (int i = 0; i < 100_000; i++) {
+            x.push(i % 8, 1 + i % 99);
+            x.edge(i % 7, i * 5 % 8, i % 2);
+            x.sendSome(i % 1000);
+            if (i % 100 == 0) {
+                x.commit();
+                x.keep(i % 3);
+                x.back(i % 7 % 2);
+                x.stream(i % 8, 7);
+                x.undo();
+                x.lists(-1);
+            }
+        }
+        due("calls went on", 8, x.told(0));
     }
 }
